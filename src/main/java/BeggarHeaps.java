@@ -50,6 +50,8 @@ public final class BeggarHeaps {
     private final Study study = new Study(rows, ending);
     private final Odds odds = new Odds(rows, ending);
     private final Laying laying = new Laying();
+    private final int[] endsFound = new int[4];
+    private boolean endsKnown;
 
     public BeggarHeaps() {
         game.startEmpty(table);
@@ -128,9 +130,6 @@ public final class BeggarHeaps {
     }
 
     public int taken(int i, int what) {
-        if (i < 0 || i >= game.keptMany) {
-            return NONE;
-        }
         return game.keptHeap(i, what);
     }
 
@@ -189,14 +188,16 @@ public final class BeggarHeaps {
         if (what < 0 || what > 3) {
             return NONE;
         }
-        ending.play.copyFrom(game.play);
-        ending.go(table.lay, table.limit);
-        switch (what) {
-            case 0: return ending.result;
-            case 1: return ending.turns;
-            case 2: return ending.heaps;
-            default: return ending.round;
+        if (!endsKnown) {
+            endsKnown = true;
+            ending.play.copyFrom(game.play);
+            ending.go(table.lay, table.limit);
+            endsFound[0] = ending.result;
+            endsFound[1] = ending.turns;
+            endsFound[2] = ending.heaps;
+            endsFound[3] = ending.round;
         }
+        return endsFound[what];
     }
 
     public int all(int what) {
@@ -434,8 +435,9 @@ public final class BeggarHeaps {
         gameChanged();
     }
 
-    // ODDS and CHOICE are kept till the cards lie otherwise.
+    // ENDS, ODDS and CHOICE are kept till the cards lie otherwise.
     private void gameChanged() {
+        endsKnown = false;
         odds.known = false;
         laying.forget();
     }
@@ -1317,7 +1319,7 @@ public final class BeggarHeaps {
 
         // The card of who is next comes on the HEAP, with nothing else done.
         int putOnHeap() {
-            int kind = kindAt(next, 0);
+            int kind = cards[next * RING + head[next]] & KIND_BITS;
             head[next] = (head[next] + 1) & (RING - 1);
             many[next]--;
             if (onHeap < RING) {
@@ -1857,6 +1859,7 @@ public final class BeggarHeaps {
         private final Ending ending;
         private final boolean[] lawKnown = new boolean[KINDS * PAYS];
         private final int[] pays = new int[KINDS];
+        private final int[] leftHasMore = new int[KINDS];
         private boolean allKnown;
         private boolean beginnerKnown;
         private boolean leadsKnown;
@@ -1918,14 +1921,12 @@ public final class BeggarHeaps {
 
         private void tellWorth() {
             int half = Rows.leftHalf(rows.many);
+            wipe(leftHasMore);
+            for (int i = 0; i < rows.many; i++) {
+                leftHasMore[rows.cards[i]] += i < half ? 1 : -1;
+            }
             for (int kind = 0; kind < KINDS; kind++) {
-                int lead = 0;
-                for (int i = 0; i < rows.many; i++) {
-                    if (rows.cards[i] == kind) {
-                        lead += i < half ? 1 : -1;
-                    }
-                }
-                if (lead > 0) {
+                if (leftHasMore[kind] > 0) {
                     worthFound[kind * 2] += ending.result == LEFT ? 1 : 0;
                     worthFound[kind * 2 + 1]++;
                 }

@@ -235,6 +235,14 @@ public final class PromisesTest {
         dueFault("bet word;", 1, 4);
         dueFault("bet not", 1, 7);
         dueFault("bet 12345;", 1, 4);
+        dueFault("bet (1 and ) ?", 1, 11);
+        dueFault("bet (1 < ) ?", 1, 9);
+        dueFault("bet (1 + ) ?", 1, 9);
+        dueFault("bet (1 * ) ?", 1, 9);
+        dueFault("bet (not ) ?", 1, 9);
+        BeggarHeaps x = Checks.with(KINDS + "bet 0 ;", "left plain ; right plain ;");
+        x.turn(1);
+        due("0 is a number behind a turn, too", 0, x.offer());
     }
 
     private static void promise3Tokens() {
@@ -632,6 +640,15 @@ public final class PromisesTest {
         x.undo();
         x.slip(1);
         due("a slip waits: not now", true, x.ends(0) != 2 || x.ends(1) > 0);
+        // Jack and plain lie alike, low or about: the way is the same, but with a slip waiting now does not count.
+        x = Checks.with("kind jack pays 1 ; kind queen pays 1 ; kind plain pays 0 ; lay low ;",
+            "left jack 2 plain queen ; right 3 plain queen ;");
+        due("from now on", 0, x.ends(1));
+        due("a round", 42, x.ends(3));
+        x.slip(1);
+        due("behind the first heap", 2, x.ends(1));
+        due("one heap", 1, x.ends(2));
+        due("a round", 42, x.ends(3));
         // Two turns, then a round of ten: twelve are enough to see it, eleven are not.
         String deal = "left jack 3 plain ; right 2 plain jack ;";
         x = Checks.with(KINDS + "lay low ; limit 12 ;", deal);
@@ -719,6 +736,10 @@ public final class PromisesTest {
         due("one goes round", 1, x.all(3));
         x = Checks.with(KINDS + "pack jack 2 ; pack plain 4 ; limit 10 ;", null);
         due("some don't end in 10", true, x.all(4) > 0);
+        x = Checks.with(KINDS + "pack plain 10 ; limit 10 ;", null);
+        due("none ends", 1, x.all(4));
+        due("no turns", 0, x.all(5));
+        due("no number", -1, x.all(6));
     }
 
     private static void promise17() {
@@ -772,6 +793,11 @@ public final class PromisesTest {
         due("the row that goes round takes 20 heaps", 1, x.leads(20, 1));
         due("the leader does not win it", 0, x.leads(20, 0));
         due("a jack each", 0, x.leads(20, 3));
+        // It takes its heaps behind 2, 5, 8, 11 turns.
+        String pack = KINDS + "pack jack 2 ; pack plain 2 ; lay low ; limit ";
+        due("three within 10", 1, Checks.with(pack + "10 ;", null).leads(3, 1));
+        due("no fourth", 0, Checks.with(pack + "10 ;", null).leads(4, 1));
+        due("the fourth within 11", 1, Checks.with(pack + "11 ;", null).leads(4, 1));
     }
 
     private static void promise20() {
@@ -796,6 +822,9 @@ public final class PromisesTest {
         due("none ends: 1", 1, x.laws(2, 0, 1));
         x = roundGame();
         due("as the table", x.all(3), x.laws(1, 1, 2));
+        Checks.table(x, SMALL);
+        due("another table: round", 0, x.laws(1, 1, 2));
+        due("another table: mean", 10, x.laws(1, 1, 0));
     }
 
     private static void promise21and22() {
@@ -907,6 +936,15 @@ public final class PromisesTest {
         due("heaps 0", -1, x.choice(0, -1));
         due("heaps 7", -1, x.choice(7, -1));
         due("what -2", -1, x.choice(1, -2));
+        // A heap of each, then one more: fewest is what is within, else none.
+        x = Checks.with("kind jack pays 1 ; kind queen pays 1 ; kind plain pays 0 ;",
+            "left jack queen 2 plain ; right plain queen plain ;");
+        due("six", 6, x.choice(6, -1));
+        due("not five", -1, x.choice(5, -1));
+        due("about", 1, x.choice(6, 0));
+        due("about", 1, x.choice(6, 1));
+        due("high", 2, x.choice(6, 2));
+        due("under", 0, x.choice(6, 3));
         x = game("left jack plain ; right plain ;");
         due("one heap", 1, x.choice(1, -1));
         due("laid under", 0, x.choice(1, 0));
@@ -953,6 +991,10 @@ public final class PromisesTest {
         due("a slip waits", -1, x.both(1));
         x = game("left plain plain ; right jack plain plain ;");
         due("left can't", 0, x.both(4));
+        // Two jacks against two plain cards: two heaps.
+        x = game("left 2 jack ; right 2 plain ;");
+        due("not one", 0, x.both(1));
+        due("two", 1, x.both(2));
         // What left can against a table's order he can't always against any.
         int less = 0;
         for (int seed = 0; seed < 200; seed++) {
@@ -1104,12 +1146,80 @@ public final class PromisesTest {
         due("games tell it too", 1, number < 50 ? Math.min(1, x.games(3, number + 1, 2)) : 1);
         due("its row", 0, Checks.deal(x, text + " ;"));
         due("goes round", 2, x.ends(0));
+        lookedOnce(x);
         x = Checks.with(KINDS + "pack plain 4 ;", null);
         due("none", -1, x.looked(3, 200, -1));
         due("none has no card", -1, x.looked(3, 200, 0));
     }
 
+    // One of six rows goes round: some seed draws it first.
+    private static void lookedOnce(BeggarHeaps x) {
+        int seed = 0;
+        while (seed < 9999 && x.looked(seed, 1, -1) != 0) {
+            seed++;
+        }
+        due("the first one", 0, x.looked(seed, 1, -1));
+        due("its first card", 1, x.looked(seed, 1, 0));
+        due("its last card", 1, x.looked(seed, 1, 3));
+        due("goes round", 1, x.games(seed, 1, 2));
+        due("it does not end: no longest", 0, x.games(seed, 1, 3));
+        due("all alike", 6, x.games(seed, 6, 0) + x.games(seed, 6, 1) + x.games(seed, 6, 2));
+        due("one less, another seed", 5, x.games(seed + 1, 5, 0) + x.games(seed + 1, 5, 1) + x.games(seed + 1, 5, 2));
+        due("fewer, once more", 4, x.games(seed + 2, 4, 0) + x.games(seed + 2, 4, 1) + x.games(seed + 2, 4, 2));
+        int rounds = x.games(seed, 6, 2);
+        Checks.table(x, KINDS + "pack jack 2 ; pack plain 2 ; lay about ;");
+        due("another table: none is found", -1, x.looked(seed, 1, -1));
+        due("another table: none is found", -1, x.looked(seed, 1, 0));
+        Checks.table(x, KINDS + "pack jack 2 ; pack plain 2 ; lay low ;");
+        due("as it was", rounds, x.games(seed, 6, 2));
+        due("as it was", 0, x.looked(seed, 1, -1));
+        Checks.table(x, KINDS + "pack plain 4 ;");
+        due("another table: none goes round", 0, x.games(seed, 6, 2));
+        due("another table: right wins all", 6, x.games(seed, 6, 1));
+    }
+
+    private static void marksHoldAll() {
+        // Bets and what comes are those of the mark, whatever was laid in their places since.
+        BeggarHeaps x = game("left jack plain plain ; right plain plain plain ;");
+        x.turn(2);
+        x.bet(0, 10);
+        x.comes(1);
+        int orders = ordersOf(x);
+        x.mark(0, false);
+        x.clear();
+        x.comes(2);
+        due("other orders", false, orders == ordersOf(x));
+        x.undo();
+        x.bet(1, 50);
+        x.mark(0, true);
+        due("orders of the mark", orders, ordersOf(x));
+        due("purse of the mark", 90, x.count(11));
+        x.turn(1000);
+        due("left has won", 0, x.count(10));
+        due("10 and 10 come back", 110, x.count(11));
+        x.again();
+        x.bet(1, 50);
+        due("back to what was won", true, x.mark(0, true));
+        due("coins of the mark", 90, x.count(11));
+        // The offer of then, too: 10 at 30, not at 0.
+        x = Checks.with(KINDS + "bet 10 * turns ;", "left ace plain plain plain ; right 3 plain ;");
+        x.turn(3);
+        x.bet(0, 10);
+        x.mark(1, false);
+        x.again();
+        x.bet(0, 10);
+        x.mark(1, true);
+        x.turn(1000);
+        due("left has won", 0, x.count(10));
+        due("90 and 10 and 30", 130, x.count(11));
+        x.mark(1, false);
+        due("what is won stays won", true, x.mark(1, true));
+        due("nothing comes twice", 0, x.turn(1));
+        due("130", 130, x.count(11));
+    }
+
     private static void promise35() {
+        marksHoldAll();
         BeggarHeaps x = game("left jack plain plain ; right plain plain plain ;");
         due("nothing on it", false, x.mark(0, true));
         due("mark 4", false, x.mark(4, false));
