@@ -523,17 +523,17 @@ public final class BeggarHeaps {
         }
 
         void advance() {
-            while (place < length && isBlank(signAt(place))) {
+            while (place < length && (signs[place] == 10 || signs[place] == ' ')) {
                 place++;
             }
             at = place;
             known = NONE;
-            int c = signAt(at);
+            int c = at < length ? signs[at] : 0;
             if (at >= length) {
                 type = END;
-            } else if (isLetter(c)) {
+            } else if (c >= 'a' && c <= 'z') {
                 readWord();
-            } else if (isDigit(c)) {
+            } else if (c >= '0' && c <= '9') {
                 readNumber();
             } else {
                 type = isSign(c) ? SIGN : BAD;
@@ -552,9 +552,9 @@ public final class BeggarHeaps {
 
         private void readWord() {
             word = 0;
-            while (place < length && isLetter(signAt(place))) {
+            while (place < length && signs[place] >= 'a' && signs[place] <= 'z') {
                 if (place - at < WORD_MOST) {
-                    word = word * 32 + (signAt(place) - 'a' + 1);
+                    word = word * 32 + (signs[place] - 'a' + 1);
                 }
                 place++;
             }
@@ -568,29 +568,13 @@ public final class BeggarHeaps {
 
         private void readNumber() {
             number = 0;
-            while (place < length && isDigit(signAt(place))) {
+            while (place < length && signs[place] >= '0' && signs[place] <= '9') {
                 if (place - at < NUMBER_MOST) {
-                    number = number * 10 + (signAt(place) - '0');
+                    number = number * 10 + (signs[place] - '0');
                 }
                 place++;
             }
             type = place - at > NUMBER_MOST ? BAD : NUMBER;
-        }
-
-        private int signAt(int i) {
-            return i >= 0 && i < MOST ? signs[i] : 0;
-        }
-
-        private static boolean isBlank(int c) {
-            return c == 10 || c == ' ';
-        }
-
-        private static boolean isLetter(int c) {
-            return c >= 'a' && c <= 'z';
-        }
-
-        private static boolean isDigit(int c) {
-            return c >= '0' && c <= '9';
         }
 
         private static boolean isSign(int c) {
