@@ -1314,10 +1314,18 @@ public final class BeggarHeaps {
             return kind;
         }
 
+        // Who is next and has none has lost; that is no TURN.
+        boolean nextHasLost() {
+            if (many[next] > 0) {
+                return false;
+            }
+            won = 1 - next;
+            return true;
+        }
+
         // If it answers DUE, layHeap has to follow.
         int turnUp() {
-            if (many[next] <= 0) {
-                won = 1 - next;
+            if (nextHasLost()) {
                 return LOST;
             }
             int pay = payOf(putOnHeap());
@@ -1618,13 +1626,13 @@ public final class BeggarHeaps {
             if (play.onHeap == 0 && !play.waiting) {
                 noteState(0, 0);
             }
-            for (int t = 0; t < limit; t++) {
-                int how = play.turnUp();
-                if (how == LOST) {
+            // Who has none behind just `limit` TURNS has lost within them.
+            for (int t = 0; t <= limit; t++) {
+                if (play.nextHasLost()) {
                     answer(play.won, t, play.heaps - heapsBefore, 0);
                     return;
                 }
-                if (how == DUE) {
+                if (t < limit && play.turnUp() == DUE) {
                     play.layHeap(order);
                     int before = noteState(t + 1, play.heaps - heapsBefore);
                     if (before != NONE) {

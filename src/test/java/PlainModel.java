@@ -500,8 +500,8 @@ final class PlainModel {
                 int[] old = seen.putIfAbsent(s.picture(), new int[] {t, s.heaps - from.heaps});
                 if (old != null && t > 0) return new End(2, old[0], old[1], t - old[0]);
             }
-            if (t == limit) break;
-            if (!s.turnOne(order, order)) return new End(s.won, t, s.heaps - from.heaps, 0);
+            if (s.rows.get(s.next).isEmpty()) return new End(1 - s.next, t, s.heaps - from.heaps, 0);
+            if (t < limit) s.turnOne(order, order);
         }
         return new End(3, limit, s.heaps - from.heaps, 0);
     }

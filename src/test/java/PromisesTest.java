@@ -675,7 +675,30 @@ public final class PromisesTest {
         due("none", 3, x.ends(0));
         due("limit", 11, x.ends(1));
         x = Checks.with(KINDS + "limit 12 ;", deal);
-        due("the turn that can't be made would be the 13th", 3, x.ends(0));
+        due("left has none behind just 12", 1, x.ends(0));
+        due("12 turns", 12, x.ends(1));
+        due("no heap", 0, x.ends(2));
+        due("no round", 0, x.ends(3));
+        due("nobody has WON by asking", -1, x.count(10));
+        x.turn(2);
+        due("from then on 10 of 12", 10, x.ends(1));
+        due("right still wins", 1, x.ends(0));
+        x = Checks.with(KINDS + "limit 10 ;", "left 5 plain ; right 4 plain jack ;");
+        due("jack is the tenth, left owes and has none", 1, x.ends(0));
+        due("ten turns", 10, x.ends(1));
+        x = Checks.with(KINDS + "limit 11 ; first right ;", "left 6 plain ; right 4 plain jack ;");
+        due("a heap of ten, then one more: none", 3, x.ends(0));
+        due("its heap", 1, x.ends(2));
+        x = Checks.with(KINDS + "limit 12 ; first right ;", "left 6 plain ; right 4 plain jack ;");
+        due("left's last card is the 12th, right is next: none", 3, x.ends(0));
+        // All that was turned is a heap of ten, and its taker is next.
+        x = Checks.with(KINDS + "limit 10 ; first right ;", "left 5 plain ; right 4 plain jack ;");
+        due("right is next and has ten: none", 3, x.ends(0));
+        due("the heap behind the tenth", 1, x.ends(2));
+        x = Checks.with(KINDS + "limit 11 ; first right ;", "left 5 plain ; right 4 plain jack ;");
+        due("one more, and left has none", 1, x.ends(0));
+        due("11 turns", 11, x.ends(1));
+        due("one heap", 1, x.ends(2));
         x = Checks.with(KINDS + "limit 10 ;", "left 2 jack 8 plain ; right 12 plain ;");
         due("none", 3, x.ends(0));
         due("limit", 10, x.ends(1));
@@ -737,9 +760,10 @@ public final class PromisesTest {
         x = Checks.with(KINDS + "pack jack 2 ; pack plain 4 ; limit 10 ;", null);
         due("some don't end in 10", true, x.all(4) > 0);
         x = Checks.with(KINDS + "pack plain 10 ; limit 10 ;", null);
-        due("none ends", 1, x.all(4));
-        due("no turns", 0, x.all(5));
-        due("no number", -1, x.all(6));
+        due("lost behind just 10: right wins", 1, x.all(2));
+        due("not none", 0, x.all(4));
+        due("10 turns", 10, x.all(5));
+        due("its number", 0, x.all(6));
     }
 
     private static void promise17() {
@@ -758,6 +782,9 @@ public final class PromisesTest {
         due("rounds are all else", true, x.beginner(2) > 0);
         due("first right is the same", x.beginner(0), Checks.with(KINDS
             + "pack jack 2 ; pack plain 2 ; lay low ; first right ;", null).beginner(0));
+        x = Checks.with(KINDS + "pack plain 10 ; limit 10 ;", null);
+        due("who begins loses behind just 10", 2, x.beginner(1));
+        due("nothing else", 0, x.beginner(0) + x.beginner(2));
     }
 
     private static void promise18() {
@@ -772,6 +799,12 @@ public final class PromisesTest {
         due("what 2", -1, x.worth(1, 2));
         due("what -1", -1, x.worth(1, -1));
         due("can't be asked", -1, Checks.with(KINDS, null).worth(0, 0));
+        // Left has five of nine, right begins with four.
+        x = Checks.with(KINDS + "pack plain 9 ; limit 10 ; first right ;", null);
+        due("right has none behind eight", 1, x.worth(2, 0));
+        x = Checks.with("kind a pays 0 ; kind b pays 0 ; pack a 7 ; pack b 3 ; limit 10 ; first right ;", null);
+        due("left has more of b in 60 rows", x.all(0) - 60, x.all(0) - x.worth(1, 1));
+        due("and wins each behind just ten", 60, x.worth(1, 0));
     }
 
     private static void promise19() {
@@ -798,6 +831,13 @@ public final class PromisesTest {
         due("three within 10", 1, Checks.with(pack + "10 ;", null).leads(3, 1));
         due("no fourth", 0, Checks.with(pack + "10 ;", null).leads(4, 1));
         due("the fourth within 11", 1, Checks.with(pack + "11 ;", null).leads(4, 1));
+        // Who has the jack takes one heap, but left with it at the bottom (right can't pay). Left's four rows are won
+        // behind just 10 turns, right's five behind just 11.
+        pack = KINDS + "pack jack 1 ; pack plain 9 ; first right ; limit ";
+        due("rows with a heap", 9, Checks.with(pack + "10 ;", null).leads(1, 1));
+        due("left's are won within 10", 4, Checks.with(pack + "10 ;", null).leads(1, 0));
+        due("by what they make pay, too", 4, Checks.with(pack + "10 ;", null).leads(1, 2));
+        due("all are won within 11", 9, Checks.with(pack + "11 ;", null).leads(1, 0));
     }
 
     private static void promise20() {
@@ -818,8 +858,9 @@ public final class PromisesTest {
         due("what -1", -1, x.laws(1, 1, -1));
         due("can't be asked", -1, Checks.with(KINDS, null).laws(0, 0, 0));
         x = Checks.with(KINDS + "pack plain 10 ; limit 10 ;", null);
-        due("none ends: 0", 0, x.laws(2, 0, 0));
-        due("none ends: 1", 1, x.laws(2, 0, 1));
+        due("lost behind just 10", 10, x.laws(2, 0, 0));
+        due("one row", 1, x.laws(2, 0, 1));
+        due("all of them make pay", 10, x.laws(2, 6, 0));
         x = roundGame();
         due("as the table", x.all(3), x.laws(1, 1, 2));
         Checks.table(x, SMALL);
@@ -858,6 +899,10 @@ public final class PromisesTest {
         x = game("left plain jack ; right plain plain ;");
         x.slip(2);
         due("still unseen", 2, x.unseen(0));
+        x = Checks.with(KINDS + "limit 10 ; first right ; bet 1 ;", "left 5 plain ; right 5 plain ;");
+        due("right loses behind just 10", 1, x.odds(0));
+        due("left is to be taken", 1, x.take(0));
+        due("right is not", 0, x.take(1));
     }
 
     private static void promise23() {
@@ -1087,6 +1132,7 @@ public final class PromisesTest {
         BeggarHeaps x = Checks.with(KINDS, null);
         due("no card in the pack", false, x.drawn(1));
         due("no card in the pack", -1, x.games(1, 1, 0));
+        limitReached();
         due("no card in the pack", -1, x.looked(1, 1, -1));
         x = Checks.with(KINDS + "pack ace 1 ; pack jack 1 ; pack plain 3 ;", null);
         due("seed -1", false, x.drawn(-1));
@@ -1216,6 +1262,19 @@ public final class PromisesTest {
         due("what is won stays won", true, x.mark(1, true));
         due("nothing comes twice", 0, x.turn(1));
         due("130", 130, x.count(11));
+    }
+
+    private static void limitReached() {
+        BeggarHeaps x = Checks.with("kind a pays 2 ; pack a 11 ; first right ; lay halves ; limit 10 ;", null);
+        due("right has five of eleven: he has none behind just ten", 3, x.games(0, 3, 0));
+        due("right wins none", 0, x.games(0, 3, 1));
+        due("ten turns", 10, x.games(0, 3, 3));
+        x = Checks.with("kind a pays 2 ; pack a 11 ; limit 10 ;", null);
+        due("left has six: none behind ten", 0, x.games(0, 3, 0) + x.games(0, 3, 1) + x.games(0, 3, 2));
+        due("no longest", 0, x.games(0, 3, 3));
+        x = Checks.with("kind a pays 2 ; pack a 11 ; limit 11 ;", null);
+        due("left turns the eleventh, right has none", 3, x.games(0, 3, 0));
+        due("eleven turns", 11, x.games(0, 3, 3));
     }
 
     private static void promise35() {
