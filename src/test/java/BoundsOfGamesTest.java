@@ -72,6 +72,9 @@ public final class BoundsOfGamesTest {
 
     /** "A GAME: no HEAP, nothing OWED, the SIDE of first is next, 100 coins in the purse, no BET." */
     private static void newGame() {
+        dueNewGame(new BeggarHeaps(), 0);
+        due("1000", 1000, new BeggarHeaps().count(16));
+        due("under", 0, new BeggarHeaps().count(17));
         for (int first = 0; first <= 1; first++) {
             String side = first == 0 ? "left" : "right";
             BeggarHeaps x = Checks.with(KINDS + "pack a 2 ; pack p 3 ; first " + side + " ;", "left a p p ; right p p ;");
@@ -174,14 +177,31 @@ public final class BoundsOfGamesTest {
         due("cards", 8, x.taken(0, 1));
         due("two make pay", 2, x.taken(0, 2));
         due("once", 1, x.taken(0, 3));
-        // With nothing owed a maker turns nothing round; the next heap counts anew.
-        x = game("left a b f ; right b p p p ;");
+        // The next heap counts anew: a b b p p is left's with two, then f and its six.
+        x = game("left a b f ; right b 8 p ;");
         x.turn(3);
-        due("twice so far, two are owed", 2, x.count(6));
+        due("two are owed", 2, x.count(6));
         x.turn(2);
         due("twice", 2, x.taken(0, 3));
+        x.turn(7);
+        due("another heap", 7, x.taken(0, 1));
+        due("never", 0, x.taken(0, 3));
+        due("one makes pay", 1, x.taken(0, 2));
+        due("the heap before", 2, x.taken(1, 3));
+        // Twice turned round, not taken: another game counts anew, the mark and what is undone go on from there.
+        x = game("left a b f p ; right b 8 p ;");
+        x.turn(3);
+        x.mark(0, false);
+        Checks.deal(x, "left a p ; right p p ;");
         x.turn(2);
-        due("another heap", 0, x.count(9) - 1);
+        due("never in the other game", 0, x.taken(0, 3));
+        x.mark(0, true);
+        x.turn(2);
+        due("twice", 2, x.taken(0, 3));
+        x.undo();
+        due("none kept", -1, x.taken(0, 3));
+        x.turn(2);
+        due("twice", 2, x.taken(0, 3));
     }
 
     /** The most cards: "ROW: 0 to 24 cards" of both on one HEAP, and in one row. */
@@ -203,6 +223,14 @@ public final class BoundsOfGamesTest {
         due("47 of a kind", 47, x.kind(0, 3));
         due("one more turn", 1, x.turn(1000));
         due("right has won", 1, x.count(10));
+        String a = "0".repeat(47);
+        String[] orders = {"under", "about", "high", "low", "halves"};
+        String[] dues = {a + "6", "6" + a, a + "6", "6" + a, a.substring(24) + "6" + a.substring(23)};
+        for (int by = 0; by < 5; by++) {
+            x = Checks.with(KINDS + "first right ; lay " + orders[by] + " ;", "left 12 a 11 a p ; right 12 a 12 a ;");
+            x.turn(48);
+            Checks.dueText("48 laid " + orders[by], dues[by], Checks.rowOf(x, 1));
+        }
         x = game("left 12 p 12 p ; right 12 q 12 q ;");
         due("48 turns", 48, x.turn(1000));
         due("all on the heap", 48, x.count(4));
@@ -777,6 +805,7 @@ public final class BoundsOfGamesTest {
 
     /** "hold the GAME with its HEAPS kept, BETS, what COMES". */
     private static void marksHold() {
+        marksHoldBets();
         for (int turns : new int[] {1, 2, 5, 125, 126}) {
             BeggarHeaps x = endless();
             x.bet(0, 7);
@@ -796,7 +825,27 @@ public final class BoundsOfGamesTest {
             Checks.dueText("as it was", was.replaceFirst(" 3 1000 3 ", " 0 1000 3 "), Looks.at(x));
             due("the slip waits", false, x.slip(1));
         }
-        BeggarHeaps x = game("left p ; right ;");
+        BeggarHeaps x = Checks.with(KINDS + "lay low ; bet 3 * turns ;", "left a p ; right p a ;");
+        for (int i = 0; i < 4; i++) {
+            x.bet(i / 2, 5 + i);
+            x.turn(33);
+        }
+        x.comes(P);
+        x.comes(0);
+        x.mark(1, false);
+        String was = Looks.at(x).replaceFirst(" 8 1000 3 ", " 0 1000 3 ");
+        // All places taken by another game.
+        Checks.deal(x, "left 2 a 2 p ; right 3 p ;");
+        for (int i = 0; i < 8; i++) {
+            x.bet(1 - i / 4, 9 - i);
+        }
+        x.turn(2);
+        x.comes(1);
+        x.comes(1);
+        x.turn(1000);
+        due("back", true, x.mark(1, true));
+        Checks.dueText("as it was", was, Looks.at(x));
+        x = game("left p ; right ;");
         x.turn(2);
         x.mark(0, false);
         x.again();
@@ -804,6 +853,48 @@ public final class BoundsOfGamesTest {
         x.mark(0, true);
         due("won in the mark", 0, x.count(10));
         due("no turn", 0, x.turn(1));
+        // The rows as they were dealt go with the game.
+        x = game("left a p q ; right q p a ;");
+        x.turn(2);
+        x.mark(2, false);
+        Checks.deal(x, "left 2 q ; right 4 p ;");
+        Checks.book(x, "opening a , won left ; opening , q won right ; opening , p won nobody ;");
+        due("the other deal", 1, x.opening(3));
+        x.mark(2, true);
+        due("by the mark's deal", 2, x.opening(0));
+        due("again", true, x.again());
+        Checks.dueText("left as dealt", "067", Checks.rowOf(x, 0));
+        Checks.dueText("right as dealt", "760", Checks.rowOf(x, 1));
+    }
+
+    private static void marksHoldBets() {
+        // 10 on right at 30, 20 on left at 30: right wins.
+        BeggarHeaps x = Checks.with(KINDS + "bet 10 * turns ;", "left 3 p ; right 3 p ;");
+        x.turn(3);
+        x.bet(1, 10);
+        x.bet(0, 20);
+        x.mark(0, false);
+        x.again();
+        for (int i = 0; i < 8; i++) {
+            x.bet(i % 2, 2);
+        }
+        x.mark(0, true);
+        x.turn(1000);
+        due("right has won", 1, x.count(10));
+        due("70 and 10 and 30", 110, x.count(11));
+        // Likewise undone.
+        x.undo();
+        due("70", 70, x.count(11));
+        x.undo();
+        x.turn(1000);
+        due("70 and 10 and 30", 110, x.count(11));
+        // A mark of nothing dealt, and back from it.
+        x = new BeggarHeaps();
+        x.mark(0, false);
+        Checks.deal(x, "");
+        due("dealt", true, x.again());
+        x.mark(0, true);
+        due("nothing was dealt in the mark", false, x.again());
     }
 
     /** "NONE for another what." */

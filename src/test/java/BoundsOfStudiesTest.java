@@ -1,4 +1,6 @@
 import java.math.BigInteger;
+import java.util.ArrayList;
+import java.util.List;
 
 /** The bounds that the document names for ENDS, ALL, ODDS, CHOICE, DRAWN and what hangs on them; each sentence above its test. */
 public final class BoundsOfStudiesTest {
@@ -22,6 +24,7 @@ public final class BoundsOfStudiesTest {
         endsWithinTheLimit();
         roundWithinTheLimit();
         roundFromWithin();
+        roundsByHand();
         cardsOfAll();
         rowsOfAll();
         rowsInOrder();
@@ -34,10 +37,13 @@ public final class BoundsOfStudiesTest {
         unseenCards();
         oddsOfTen();
         oddsOfTwentyThousand();
+        oddsByHand();
         takes();
         choices();
         choicesByHand();
         boths();
+        eachOrderOfLeft();
+        eachOrderOfRight();
         laidByChoiceWhenWon();
         draws();
         games();
@@ -151,6 +157,58 @@ public final class BoundsOfStudiesTest {
         x.undo();
         due("goes round", 2, x.ends(0));
         due("now", 0, x.ends(1));
+    }
+
+    /** How it ends, found by hand; in the last two deals two states share a place where they are kept. */
+    private static void roundsByHand() {
+        String[] tables = {"lay low ;", "lay low ;", "lay under ; limit 3000 ;", "lay low ;", "lay halves ;"};
+        String[] deals = {"left jack plain ; right plain jack ;", "left jack 3 plain ; right 2 plain jack ;", ROUND,
+            "left 2 plain queen jack 2 plain jack plain ; right 4 plain jack 3 plain ;",
+            "left plain queen jack plain jack plain jack 3 plain ; right 8 plain jack plain ;"};
+        for (int i = 0; i < deals.length; i++) {
+            BeggarHeaps x = Checks.with(KINDS + tables[i], deals[i]);
+            due("goes round", 2, x.ends(0));
+            dueEnds(x, Checks.with(KINDS + tables[i], deals[i]));
+        }
+        String eight = "kind a pays 0 ; kind b pays 1 ; kind c pays 1 ; kind d pays 0 ; kind e pays 2 ; kind f pays 1 ; kind g pays 0 ;"
+            + " kind h pays 0 ; limit 300 ; ";
+        String[] packs = {"pack a 1 ; pack b 1 ; pack c 1 ; pack d 2 ; pack g 1 ; pack h 2 ; lay low ;",
+            "pack a 2 ; pack b 2 ; pack d 2 ; pack f 1 ; pack g 1 ; pack h 3 ; lay low ;",
+            "pack a 4 ; pack c 2 ; pack e 1 ; pack f 2 ; pack g 4 ; pack h 5 ; lay about ;",
+            "pack a 3 ; pack b 2 ; pack f 1 ; pack h 3 ; lay under ; first right ;"};
+        for (String pack : packs) {
+            for (int seed = 0; seed < 60; seed++) {
+                BeggarHeaps x = Checks.with(eight + pack, null);
+                BeggarHeaps y = Checks.with(eight + pack, null);
+                x.drawn(seed);
+                y.drawn(seed);
+                dueEnds(x, y);
+            }
+        }
+    }
+
+    /** What x tells of its end, and y, which stands alike, comes to by hand. */
+    private static void dueEnds(BeggarHeaps x, BeggarHeaps y) {
+        int limit = x.count(16);
+        List<String> states = new ArrayList<>();
+        List<int[]> behind = new ArrayList<>();
+        int[] dues = {3, limit, 0, 0};
+        for (int t = 0; t <= limit && dues[0] == 3; t++) {
+            int before = y.count(4) == 0 ? states.indexOf(standing(y)) : -1;
+            if (before >= 0) {
+                dues = new int[] {2, behind.get(before)[0], behind.get(before)[1], t - behind.get(before)[0]};
+            } else if (y.count(2 + y.count(5)) == 0) {
+                dues = new int[] {1 - y.count(5), t, y.count(9), 0};
+            } else {
+                states.add(y.count(4) == 0 ? standing(y) : "");
+                behind.add(new int[] {t, y.count(9)});
+                dues[2] = y.count(9);
+                y.turn(1);
+            }
+        }
+        for (int what = 0; what <= 3; what++) {
+            due("ends(" + what + ")", dues[what], x.ends(what));
+        }
     }
 
     private static BeggarHeaps packed(String rest) {
@@ -295,7 +353,12 @@ public final class BoundsOfStudiesTest {
 
     /** "BEGINNER: of all rows, with left first and with right first, how often who begins wins." */
     private static void beginners() {
-        String rest = "pack jack 2 ; pack plain 4 ; lay low ; limit 12 ; first ";
+        beginnersOf("pack jack 2 ; pack plain 4 ; lay low ; limit 12 ; first ");
+        beginnersOf("pack jack 2 ; pack plain 2 ; lay low ; first ");
+        beginnersOf("pack jack 3 ; pack plain 4 ; lay halves ; first ");
+    }
+
+    private static void beginnersOf(String rest) {
         BeggarHeaps left = packed(rest + "left ;");
         BeggarHeaps right = packed(rest + "right ;");
         due("who begins", left.all(1) + right.all(2), left.beginner(0));
@@ -326,6 +389,7 @@ public final class BoundsOfStudiesTest {
             due("rows", rows, x.worth(kind, 1));
         }
         due("none in the pack", 0, x.worth(0, 1));
+        due("asked at first", x.worth(2, 0), packed(rest).worth(2, 0));
         due("kind -1", -1, x.worth(-1, 0));
         due("kind 4", -1, x.worth(4, 0));
         due("what -1", -1, x.worth(2, -1));
@@ -335,6 +399,7 @@ public final class BoundsOfStudiesTest {
     /** "LEADS behind so many heaps (1 to 20; rows in which, with so many taken, nobody has WON)". */
     private static void leadsByHand() {
         String[] tables = {"pack jack 2 ; pack plain 3 ; limit 40 ;", "pack jack 2 ; pack plain 2 ; lay low ; limit 17 ;",
+            "pack jack 2 ; pack plain 2 ; lay low ; limit 16 ;", "pack jack 2 ; pack plain 2 ; lay low ; limit 10 ;",
             "pack queen 1 ; pack jack 2 ; pack plain 3 ; first right ; lay halves ; limit 60 ;", "pack jack 5 ; pack plain 5 ; lay low ;"};
         for (String rest : tables) {
             BeggarHeaps x = packed(rest);
@@ -387,6 +452,13 @@ public final class BoundsOfStudiesTest {
 
     /** "if a KIND paid so many (0 to 6) ... the mean, above and below, in lowest terms". */
     private static void lawsByHand() {
+        String round = "pack jack 2 ; pack plain 2 ; lay low ;";
+        lawByHand(packed(round), 2, 1, round);
+        due("one goes round", 1, packed(round).laws(2, 1, 2));
+        String ace = "pack ace 1 ; pack jack 1 ; pack plain 3 ;";
+        for (int kind = 0; kind < 4; kind++) {
+            lawByHand(packed(ace), kind, 3, ace);
+        }
         String rest = "pack jack 2 ; pack plain 3 ; lay high ; limit 30 ;";
         BeggarHeaps x = packed(rest);
         for (int kind = 0; kind < 4; kind++) {
@@ -502,6 +574,40 @@ public final class BoundsOfStudiesTest {
         due("one a is seen: 5,040 rows", 5040, x.odds(2));
         x.undo();
         due("20,160 rows", -1, x.odds(2));
+    }
+
+    /** "all else as it is": of ALL rows those in which the same cards came so far; at first these are all. */
+    private static void oddsByHand() {
+        String rest = "pack queen 1 ; pack jack 2 ; pack plain 3 ; lay low ; limit 30 ;";
+        BeggarHeaps all = packed(rest);
+        for (int seed = 0; seed < 12; seed++) {
+            for (int turns = 0; turns <= 6; turns++) {
+                BeggarHeaps x = packed(rest);
+                x.drawn(seed);
+                String came = cameIn(x, turns);
+                int[] dues = new int[3];
+                for (int n = 0; n < all.all(0); n++) {
+                    BeggarHeaps y = Checks.with(KINDS + rest, dealOf(all, n));
+                    if (cameIn(y, turns).equals(came)) {
+                        dues[2]++;
+                        dues[0] += y.ends(0) == 0 ? 1 : 0;
+                        dues[1] += y.ends(0) == 1 ? 1 : 0;
+                    }
+                }
+                for (int what = 0; what <= 2; what++) {
+                    due("odds(" + what + ") behind " + came, dues[what], x.odds(what));
+                }
+            }
+        }
+    }
+
+    private static String cameIn(BeggarHeaps x, int turns) {
+        StringBuilder b = new StringBuilder();
+        for (int t = 0; t < turns; t++) {
+            b.append(x.card(x.count(5), 0)).append(' ');
+            x.turn(1);
+        }
+        return b.toString();
     }
 
     private static int takeAt(int offer, String deal, int side) {
@@ -621,6 +727,48 @@ public final class BoundsOfStudiesTest {
             due("a slip waits", -1, x.both(4));
         }
         due("against one who can't choose he can", 1, Checks.with(KINDS, deals[5]).choice(1, -1));
+    }
+
+    /** "left lays each HEAP that he takes from now on by any ORDER": each of the five is the only one that does once. */
+    private static void eachOrderOfLeft() {
+        String[] deals = {"left 2 jack ; right ace plain ace plain ;", "left plain jack ; right 2 plain jack ;",
+            "left 2 jack ; right ace 3 plain ;", "left ace jack ; right jack plain jack plain ;", "left queen ; right 2 plain jack ;"};
+        for (int order = 0; order < 5; order++) {
+            BeggarHeaps x = Checks.with(KINDS, deals[order]);
+            due("one heap", 1, x.choice(1, -1));
+            due("the only order", order, x.choice(1, 0));
+            due("both", 1, x.both(1));
+        }
+        // The first one of those that do; two and three heaps.
+        String[][] more = {
+            {"left jack ; right 2 plain ace ;", "left jack ; right plain ace plain ;", "left ace plain 2 jack ; right plain jack queen ;",
+                "left 2 plain jack ; right jack ace ;", "left queen jack ; right 3 plain jack ;"},
+            {"left jack ; right 2 plain ace plain ;", "left jack plain ; right plain jack ace ;", "left 2 plain jack ace ; right jack plain ;",
+                "left plain jack ; right 2 plain queen ace ;", "left queen plain ; right 2 plain 2 jack plain ;"}};
+        for (int i = 0; i < 2; i++) {
+            for (int order = 0; order < 5; order++) {
+                BeggarHeaps x = Checks.with(KINDS, more[i][order]);
+                due("heaps", i + 2, x.choice(6, -1));
+                due("not fewer", -1, x.choice(i + 1, -1));
+                due("the first order", order, x.choice(6, 0));
+            }
+        }
+    }
+
+    /** "however right lays his": each of the five is the only one that saves him once. */
+    private static void eachOrderOfRight() {
+        String[] orders = {"under", "about", "high", "low", "halves"};
+        String[] deals = {"left 3 plain ace queen ; right queen ;", "left ace 3 plain queen ace ; right jack ;",
+            "left 2 plain queen ace ; right jack ;", "left ace plain queen ace 2 plain jack ; right plain jack ;",
+            "left plain ace 2 plain queen 2 ace ; right plain jack ;"};
+        for (int order = 0; order < 5; order++) {
+            for (int by = 0; by < 5; by++) {
+                BeggarHeaps x = Checks.with(KINDS + "lay " + orders[by] + " ;", deals[order]);
+                due("right lays by the table's", by == order ? -1 : 1, x.choice(1, -1));
+                due("no order of left's", -1, x.choice(1, 0));
+                due("right lays as he likes", 0, x.both(1));
+            }
+        }
     }
 
     private static void laidByChoiceWhenWon() {
@@ -767,6 +915,12 @@ public final class BoundsOfStudiesTest {
             due("just within", number, y.looked(seed, number + 1, -1));
             due("not within fewer", -1, number > 0 ? y.looked(seed, number, -1) : -1);
         }
+        for (int bad : new int[] {Integer.MIN_VALUE, -1, 10000, Integer.MAX_VALUE}) {
+            due("seed " + bad, -1, y.looked(bad, 200, -1));
+            due("seed " + bad, -1, y.looked(bad, 200, 0));
+        }
+        due("what -2", -1, y.looked(0, 200, -2));
+        due("what MIN", -1, y.looked(0, 200, Integer.MIN_VALUE));
         due("no card", -1, packed("").looked(0, 1, -1));
     }
 }

@@ -16,6 +16,7 @@ public final class BoundsOfTextsTest {
         otherSigns();
         blanks();
         theEnd();
+        behindTheEnd();
         kinds();
         pays();
         packs();
@@ -34,7 +35,10 @@ public final class BoundsOfTextsTest {
         offers();
         leastFault();
         firstWrongToken();
+        facts();
         afterATable();
+        tableAfterTable();
+        faultsBetween();
         afterADeal();
         afterABook();
         Checks.finish("BoundsOfTextsTest");
@@ -236,6 +240,27 @@ public final class BoundsOfTextsTest {
         deal("left 2", 1, 6);
         book("opening , won left", 1, 18);
         book("opening", 1, 7);
+    }
+
+    /** Signs of a longer text that was read before are no more there; nor is one behind the 1,000th. */
+    private static void behindTheEnd() {
+        String[] before = {"limit 1055", "layx lowlow", "limit 10 ;;;", "bet 12345678901234567890"};
+        String[] texts = {"limit 10", "lay low", "limit 10", "bet 1234"};
+        for (int i = 0; i < texts.length; i++) {
+            for (String first : before) {
+                BeggarHeaps x = new BeggarHeaps();
+                Checks.table(x, first);
+                due(texts[i] + " behind " + first, 1 + 16 * texts[i].length(), Checks.table(x, texts[i]));
+            }
+            String full = times(1000 - texts[i].length(), " ") + texts[i];
+            table(full, 1, 1000);
+            table(full + ";", 1, 1000);
+            table(full.substring(1) + ";", 0, 0);
+        }
+        BeggarHeaps x = Checks.with(KINDS, null);
+        due("a longer row", 0, Checks.deal(x, "left 3 plain jack ; right 5 jack plain ;"));
+        due("a shorter one", 0, Checks.deal(x, "left jack ; right jack ;"));
+        Checks.dueText("nothing of the longer one", "1/1", Checks.rowOf(x, 0) + "/" + Checks.rowOf(x, 1));
     }
 
     private static String kindLines(int many) {
@@ -511,11 +536,17 @@ public final class BoundsOfTextsTest {
         due("0 - 2^31 - 1 is 2^31 - 1", 99, offerOf("0 - " + two31 + " - 1"));
         due("below 0 is so", 1, offerOf("( 0 - 1 ) and 1"));
         due("not of below 0", 0, offerOf("not ( 0 - 1 )"));
-        due("2 and 4 are both so", 1, offerOf("2 and 4"));
-        due("1 < 1", 0, offerOf("1 < 1"));
-        due("0 < 1", 1, offerOf("0 < 1"));
-        due("2 < 1", 0, offerOf("2 < 1"));
-        due("1 = 2", 0, offerOf("1 = 2"));
+        for (int a = 0; a <= 2; a++) {
+            due("not " + a, a == 0 ? 1 : 0, offerOf("not " + a));
+            due("not not " + a, a == 0 ? 0 : 1, offerOf("not not " + a));
+            due("7 + not " + a, a == 0 ? 8 : 7, offerOf("7 + not " + a));
+            for (int b = 0; b <= 2; b++) {
+                due(a + " and " + b, a > 0 && b > 0 ? 1 : 0, offerOf(a + " and " + b));
+                due(a + " or " + b, a > 0 || b > 0 ? 1 : 0, offerOf(a + " or " + b));
+                due(a + " < " + b, a < b ? 1 : 0, offerOf(a + " < " + b));
+                due(a + " = " + b, a == b ? 1 : 0, offerOf(a + " = " + b));
+            }
+        }
         due("ahead: 1 - 3", 1, offerOf("ahead = 0 - 2"));
         due("more: 4 - 0", 4, offerOf("more"));
     }
@@ -554,6 +585,27 @@ public final class BoundsOfTextsTest {
         book("opening , won queen ;", 1, 14);
     }
 
+    /** "Facts: ahead ..., more ..., heaps (how many were taken), turns (how many cards were turned)". */
+    private static void facts() {
+        // Turned: jack plain (left's heap), ace.
+        int[] ahead = {-2, -3, 0, -1};
+        int[] more = {-4, -5, -4, -8};
+        int[] heaps = {0, 0, 1, 1};
+        for (int turns = 0; turns <= 3; turns++) {
+            for (String fact : new String[] {"ahead", "more", "heaps", "turns"}) {
+                BeggarHeaps x = Checks.with(KINDS + "bet 50 + " + fact + " ;", "left jack ace plain ; right plain 2 ace jack plain ;");
+                if (turns > 0) {
+                    x.turn(turns);
+                }
+                int due = fact.equals("ahead") ? ahead[turns] : fact.equals("more") ? more[turns] : fact.equals("heaps") ? heaps[turns] : turns;
+                due(fact + " behind " + turns, 50 + due, x.offer());
+            }
+        }
+        BeggarHeaps x = Checks.with(KINDS + "bet 0 ;", "left plain ; right plain ;");
+        x.turn(1);
+        due("0 is 0, whatever was turned", 0, x.offer());
+    }
+
     /** "Without a FAULT a TABLE is the TABLE from then on, both rows are empty, the BOOK too, no MARK is there." */
     private static void afterATable() {
         for (String text : new String[] {"", KINDS + "pack ace 2 ; first right ;"}) {
@@ -566,8 +618,41 @@ public final class BoundsOfTextsTest {
                 x.mark(mark, false);
             }
             x.slip(1);
+            Looks.at(x);
             due("a table", 0, Checks.table(x, text));
             Checks.dueText("as a new object with it", Looks.deep(Checks.with(text, null)), Looks.deep(x));
+        }
+    }
+
+    /** One TABLE behind the other in one object: nothing of an earlier one is left. */
+    private static void tableAfterTable() {
+        String[] tables = {kindLines(8) + "pack a 1 ; pack h 2 ; lay low ; first right ; bet 5 + turns ; limit 20 ;",
+            KINDS + "pack jack 2 ; pack plain 2 ; lay low ; limit 40 ;", KINDS + "pack ace 1 ; pack plain 3 ;", "",
+            KINDS + "pack jack 3 ; pack plain 2 ; lay high ; first right ;", "first right ;", "limit 10 ;", KINDS, "bet 3 ;", "lay about ;",
+            KINDS + "pack jack 2 ; pack plain 2 ; lay about ; bet more ;", KINDS + "pack jack 2 ; pack plain 2 ; lay low ; limit 3000 ;"};
+        BeggarHeaps x = new BeggarHeaps();
+        for (int round = 0; round < 3; round++) {
+            for (int i = 0; i < tables.length; i++) {
+                String text = tables[i * 5 % 12];
+                due("table", 0, Checks.table(x, text));
+                Checks.dueText("as in a new object: " + text, Looks.deep(Checks.with(text, null)), Looks.deep(x));
+                due("likewise", 0, Checks.table(x, tables[(i + round) % 12]));
+            }
+        }
+    }
+
+    /** A TABLE, DEAL or BOOK with a FAULT is nobody's: what is read next goes by the TABLE that is. */
+    private static void faultsBetween() {
+        for (String fault : new String[] {"kind plain pays 6 ; kind a pays 1 ; ?", "?", "kind b pays 0 ; pack b 12 ; limit"}) {
+            BeggarHeaps x = Checks.with(KINDS, null);
+            due("a fault", 1, Checks.table(x, fault) % 16);
+            due("a book", 0, Checks.book(x, "opening plain , jack won left ;"));
+            due("a fault", 1, Checks.table(x, fault) % 16);
+            due("a deal", 0, Checks.deal(x, "left plain ; right jack ;"));
+            due("its card", 2, x.card(0, 0));
+            due("it fits", 1, x.opening(1));
+            due("a name of the one with a fault", 2 + 16 * 5, Checks.deal(x, "left b ;"));
+            due("a name of the one with a fault", 2 + 16 * 8, Checks.book(x, "opening a ,"));
         }
     }
 
@@ -580,6 +665,7 @@ public final class BoundsOfTextsTest {
             x.turn(5);
             x.comes(2);
             x.slip(1);
+            Looks.at(x);
             due("a deal", 0, Checks.deal(x, deal));
             Checks.dueText("as a new object with it", Looks.deep(Checks.with(table, deal)), Looks.deep(x));
         }

@@ -57,6 +57,27 @@ final class Looks {
         put(b, x.both(2));
         put(b, x.offer());
         put(b, orders(x));
+        return b.append(studied(x)).toString();
+    }
+
+    private static String studied(BeggarHeaps x) {
+        StringBuilder b = new StringBuilder();
+        for (int kind = 0; kind < x.count(0); kind++) {
+            for (int what = 0; what <= 2; what++) {
+                put(b, x.worth(kind, what));
+                put(b, x.laws(kind, 0, what));
+                put(b, x.laws(kind, 2, what));
+            }
+        }
+        for (int what = 0; what <= 3; what++) {
+            put(b, x.beginner(what));
+            put(b, x.leads(1, what));
+            put(b, x.leads(2, what));
+            put(b, x.games(7, 3, what));
+        }
+        for (int what = -1; what <= x.count(1); what++) {
+            put(b, x.looked(7, 9, what));
+        }
         return b.toString();
     }
 
